@@ -136,7 +136,7 @@ public final class DebateHouse {
             return NONE;
         }
         int act = log.count;
-        log.add(what, m, kind, a, b, live.latestRefused);
+        log.add(what, m, kind, a, b);
         live.work(act, false);
         return live.rulingOf(act);
     }
@@ -546,11 +546,9 @@ public final class DebateHouse {
         final int[] kind = new int[MOST_ACTS];
         final int[] a = new int[MOST_ACTS];
         final int[] b = new int[MOST_ACTS];
-        /** What an appeal here means: kept with the act, as beside the session it means the same act. */
-        final int[] meant = new int[MOST_ACTS];
         int count;
 
-        void add(int theWhat, int theMember, int theKind, int theA, int theB, int theMeant) {
+        void add(int theWhat, int theMember, int theKind, int theA, int theB) {
             if (!isActNumber(count)) {
                 return;
             }
@@ -559,7 +557,6 @@ public final class DebateHouse {
             kind[count] = theKind;
             a[count] = theA;
             b[count] = theB;
-            meant[count] = theMeant;
             count++;
         }
     }
@@ -978,6 +975,7 @@ public final class DebateHouse {
         final boolean[] overturns = new boolean[MOST_ACTS];
         final boolean[] appealDecided = new boolean[MOST_ACTS];
         int worked;
+        /** What an appeal means: of this working of the acts, as each working rules for itself. */
         int latestRefused;
         int there;
         int time;
@@ -1159,7 +1157,7 @@ public final class DebateHouse {
                 return false;
             }
             if (kind == APPEAL) {
-                return !motions.has(APPEAL) && mayAppeal(log.meant[i]);
+                return !motions.has(APPEAL) && mayAppeal();
             }
             if (floor.holder != NONE && floor.holder != log.member[i]) {
                 return false;
@@ -1185,8 +1183,8 @@ public final class DebateHouse {
             }
         }
 
-        private boolean mayAppeal(int act) {
-            return isWorked(act) && !appealDecided[act];
+        private boolean mayAppeal() {
+            return isWorked(latestRefused) && !appealDecided[latestRefused];
         }
 
         private boolean hasOther(int i, int ruling) {
@@ -1226,7 +1224,7 @@ public final class DebateHouse {
                     floor.yieldTo(member);
                     break;
                 case MOVE:
-                    motions.push(log.kind[i], member, log.a[i], log.b[i], log.meant[i]);
+                    motions.push(log.kind[i], member, log.a[i], log.b[i], latestRefused);
                     break;
                 case SECOND:
                     motions.secondTop();

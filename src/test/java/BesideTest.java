@@ -15,7 +15,9 @@ public final class BesideTest {
         whatCantBeSo();
         mainInPlaceOfAPaper();
         addToGone();
-        appealMeansTheSame();
+        appealWithoutARefusal();
+        appealOfWhatIsRefusedBeside();
+        appealOfAnotherAct();
         appealOfNothing();
         due.finish();
     }
@@ -192,18 +194,56 @@ public final class BesideTest {
         due.is("state(8)", house.state(8), 4);
     }
 
-    /** Beside, the refused act that was appealed is let, and the appeal of it is still let and voted on. */
-    private static void appealMeansTheSame() {
+    /** The only refused act is let beside the session: there the appeal of it has nothing that was refused ahead. */
+    private static void appealWithoutARefusal() {
         DebateHouse house = Due.house(RULES, 3);
         due.is("limit 0", move(house, 3, 0, 0), 6);
         due.is("appeal", move(house, 7, 0, 0), 0);
         due.is("vote", vote(house), 0);
         due.is("overturned(3)", house.overturned(3), 1);
-        due.is("the appeal beside it", house.beside(3, 11 + 4), 0);
-        due.is("the limit is still pending", house.beside(3, 5), 1);
+        due.is("the limit is let", house.beside(3, 11 + 3), 0);
+        due.is("the appeal is not", house.beside(3, 11 + 4), 6);
+        due.is("the limit is voted on", house.beside(3, 11 + 5), 0);
+        due.is("none is pending", house.beside(3, 5), 0);
+        due.is("the session is as it was", house.ruling(4), 0);
+        DebateHouse yielded = Due.house(RULES + "time 9;", 3);
+        yielded.act(2, 0, 0, 0, 0);
+        yielded.act(3, 0, 0, 0, 0);
+        due.is("yield to who has it", yielded.act(5, 0, 0, 0, 0), 6);
+        due.is("appeal", move(yielded, 7, 0, 0), 0);
+        due.is("the yield is let, so the appeal is not", yielded.beside(5, 11 + 6), 6);
+        due.is("none is pending", yielded.beside(5, 5), 0);
+    }
+
+    /** An act that is refused beside the session alone can be appealed there. */
+    private static void appealOfWhatIsRefusedBeside() {
+        DebateHouse house = Due.house(RULES, 3);
+        due.is("limit", move(house, 3, 5, 0), 0);
+        due.is("appeal of nothing", move(house, 7, 0, 0), 6);
+        due.is("the appeal is let", house.beside(3, 11 + 4), 0);
+        due.is("it alone is pending", house.beside(3, 5), 1);
+        DebateHouse other = Due.house(RULES, 3);
+        other.act(2, 0, 0, 0, 0);
+        due.is("appeal of nothing", move(other, 7, 0, 0), 6);
+        due.is("an ask can't be appealed", other.beside(3, 11 + 4), 6);
+    }
+
+    /** What an appeal means, and whether that was voted on, is of the session that is worked anew. */
+    private static void appealOfAnotherAct() {
+        DebateHouse house = Due.house(RULES, 3);
+        due.is("limit 0", move(house, 3, 0, 0), 6);
+        due.is("recess 0", move(house, 5, 0, 0), 6);
+        due.is("appeal of act 4", move(house, 7, 0, 0), 0);
+        due.is("vote", vote(house), 0);
         due.is("appeal again", move(house, 7, 0, 0), 6);
-        due.is("without the vote the first appeal is pending", house.beside(5, 11 + 6), 6);
-        due.is("without the first appeal it was not voted on", house.beside(4, 11 + 6), 0);
+        due.is("the appeal means act 3", house.beside(4, 11 + 5), 0);
+        due.is("of which one was voted on", house.beside(4, 11 + 7), 6);
+        due.is("act 4 is meant still", house.beside(3, 11 + 5), 0);
+        due.is("of which one was voted on", house.beside(3, 11 + 7), 6);
+        due.is("the refused appeal is meant", house.beside(5, 11 + 7), 0);
+        due.is("the first appeal is pending", house.beside(6, 11 + 7), 6);
+        due.is("overturned(3)", house.overturned(3), 0);
+        due.is("overturned(4)", house.overturned(4), 1);
     }
 
     private static void appealOfNothing() {

@@ -22,7 +22,7 @@ final class Model {
         boolean yields = true;
     }
 
-    record Act(int what, int m, int kind, int a, int b, int meant) { }
+    record Act(int what, int m, int kind, int a, int b) { }
 
     static final class Motion {
         int kind;
@@ -183,7 +183,7 @@ final class Model {
             return true;
         }
         if (kind == 7) {
-            return motions.stream().anyMatch(one -> one.kind == 7) || act.meant == NONE || appealsVoted.contains(act.meant);
+            return motions.stream().anyMatch(one -> one.kind == 7) || latest == NONE || appealsVoted.contains(latest);
         }
         if (top != null && law.rank[kind] <= law.rank[top.kind] || floor != NONE && floor != act.m) {
             return true;
@@ -244,7 +244,7 @@ final class Model {
                 motion.mover = act.m;
                 motion.a = act.a;
                 motion.b = act.b;
-                motion.meant = act.meant;
+                motion.meant = latest;
                 motions.add(motion);
                 break;
             case 7:

@@ -88,21 +88,20 @@ public final class ModelTest {
     }
 
     private Model.Act nextAct() {
-        int meant = model.latest;
         if (model.there.size() < 2 || random.nextInt(15) == 0) {
-            return new Model.Act(random.nextInt(5) == 0 ? 1 : 0, someMember(), 0, 0, 0, meant);
+            return new Model.Act(random.nextInt(5) == 0 ? 1 : 0, someMember(), 0, 0, 0);
         }
         int mover = random.nextInt(3) == 0 || model.floor < 0 ? someMember() : model.floor;
         int choice = random.nextInt(20);
         if (choice < 6) {
             int kind = random.nextInt(30) == 0 ? random.nextInt(12) - 2 : likelyKind();
-            return new Model.Act(6, mover, kind, numberFor(kind), random.nextInt(1000), meant);
+            return new Model.Act(6, mover, kind, numberFor(kind), random.nextInt(1000));
         }
         if (choice < 12) {
-            return decision(meant);
+            return decision();
         }
         int what = new int[] {2, 2, 3, 3, 4, 5, 7, 7}[choice - 12];
-        return new Model.Act(what, someMember(), 0, 1 + random.nextInt(random.nextInt(9) == 0 ? 10000 : 12), 0, meant);
+        return new Model.Act(what, someMember(), 0, 1 + random.nextInt(random.nextInt(9) == 0 ? 10000 : 12), 0);
     }
 
     private int likelyKind() {
@@ -130,9 +129,9 @@ public final class ModelTest {
         return random.nextInt(20);
     }
 
-    private Model.Act decision(int meant) {
+    private Model.Act decision() {
         if (random.nextInt(3) == 0) {
-            return new Model.Act(9, 0, 0, random.nextInt(12) == 0 ? 2 : random.nextInt(5) == 0 ? 0 : 1, 0, meant);
+            return new Model.Act(9, 0, 0, random.nextInt(12) == 0 ? 2 : random.nextInt(5) == 0 ? 0 : 1, 0);
         }
         int yes = 0;
         int no = 0;
@@ -144,7 +143,7 @@ public final class ModelTest {
         if (random.nextInt(30) == 0) {
             yes |= 1 << random.nextInt(32);
         }
-        return new Model.Act(8, 0, 0, yes, no, meant);
+        return new Model.Act(8, 0, 0, yes, no);
     }
 
     private void compareState(String call) {
