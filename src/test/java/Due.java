@@ -3,11 +3,17 @@ import java.nio.charset.StandardCharsets;
 /** Counts the answers that are not as due, and tells a house its rules. */
 final class Due {
     private int wrong;
+    private String sentence = "";
+
+    /** The words of the document that the answers from here on are due by. */
+    void by(String words) {
+        sentence = "'" + words + "': ";
+    }
 
     void is(String call, long got, long want) {
         if (got != want) {
             wrong++;
-            System.out.println(call + " answered " + got + ", due is " + want);
+            System.out.println(sentence + call + " answered " + got + ", due is " + want);
         }
     }
 
