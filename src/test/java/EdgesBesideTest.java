@@ -23,6 +23,8 @@ public final class EdgesBesideTest {
         whatCantBeSo();
         amendmentsThatCantBeSo();
         addToWhatIsGone();
+        twoAtTheFront();
+        workedTwice();
         mainInPlaceOfAPaper();
         tableWithoutAPaper();
         whats();
@@ -385,6 +387,43 @@ public final class EdgesBesideTest {
             for (int k = 0; k < added.length; k++) {
                 due.is("amendment " + kind + ": text " + k, house.beside(6, TEXT + k), kind == 0 ? added[k] : struck[k]);
             }
+        }
+    }
+
+    /** Clause 0 goes while two additions to it wait: what the first brings was not ahead of clause 0 when it went. */
+    private static void twoAtTheFront() {
+        due.by("of those that were ahead of it when it went; none: at the front");
+        DebateHouse house = houseWithPaper();
+        due.is("act 5: yield", Acts.yieldTo(house, 0), 6);
+        due.is("act 6: ADD", move(house, Acts.AMEND, 0, 7), 0);
+        due.is("act 7: appeal", move(house, Acts.APPEAL, 0, 0), 0);
+        due.is("act 8: ADD", move(house, Acts.AMEND, 0, 8), 0);
+        due.is("act 9: STRIKE, of the same rank", move(house, Acts.AMEND, 1, 0), 6);
+        for (int n = 0; n < 4; n++) {
+            Acts.vote(house, 7, 0);
+        }
+        int[] texts = {7, 8, 101, 102, 103, -1};
+        for (int k = 0; k < texts.length; k++) {
+            due.is("text " + k, house.beside(9, TEXT + k), texts[k]);
+        }
+    }
+
+    private static void workedTwice() {
+        due.by("the session worked anew from its first act on");
+        DebateHouse house = Due.house("time 1;", 2);
+        Acts.ask(house, 0);
+        Acts.call(house);
+        Acts.pass(house, 1);
+        Acts.ask(house, 1);
+        Acts.call(house);
+        Acts.pass(house, 1);
+        Acts.ask(house, 0);
+        Acts.ask(house, 1);
+        Acts.call(house);
+        Acts.come(house, 2);
+        for (int n = 0; n < 3; n++) {
+            due.is("the FLOOR beside, time " + n, house.beside(11, 2), 0);
+            due.is("the FLOOR beside another, time " + n, house.beside(3, 2), 1);
         }
     }
 

@@ -7,7 +7,8 @@ public final class EdgesFloorTest {
     private static final int MIN = Integer.MIN_VALUE;
     private static final int MAX = Integer.MAX_VALUE;
     private static final int[] NO_MEMBERS = {-1, 24, 25, 31, 32, 56, MIN, MAX};
-    private static final String CHAIR = "motion limit rank 1 pass half;motion recess rank 2 pass chair;motion adjourn rank 3 pass chair;";
+    private static final String CHAIR = "motion limit rank 1 pass half;motion recess rank 2 pass chair;"
+        + "motion adjourn rank 3 pass chair;";
 
     public static void main(String[] args) {
         newObject();
@@ -45,6 +46,10 @@ public final class EdgesFloorTest {
     private static void newObject() {
         due.by("No RULES, no MEMBERS there, all of SCHOOL 0");
         DebateHouse house = new DebateHouse();
+        int[] states = {0, 0, -1, 0, 60, 0, 0, 0, -1, 0, 0};
+        for (int what = 0; what < states.length; what++) {
+            due.is("state(" + what + ")", house.state(what), states[what]);
+        }
         for (int m = 0; m < 24; m++) {
             due.is("score of " + m + " by a judge of SCHOOL 0", house.score(0, 0, m, m), true);
             due.is("score of " + m + " by a judge of SCHOOL 1", house.score(1, 1, m, 50), true);
@@ -89,7 +94,9 @@ public final class EdgesFloorTest {
         DebateHouse house = new DebateHouse();
         due.is("ruling(0) without it", house.ruling(0), -1);
         for (int i = 0; i < 300; i++) {
-            due.is("acts", house.state(10), i);
+            if (i % 50 < 2) {
+                due.is("acts", house.state(10), i);
+            }
             due.is("act " + i, i % 2 == 0 ? Acts.come(house, 0) : Acts.come(house, 24), i == 0 ? 0 : i % 2 == 0 ? 2 : 1);
         }
         due.by("NONE, and it is no act: no such act, or there are 300");
@@ -151,6 +158,23 @@ public final class EdgesFloorTest {
             due.is("rule", house.act(9, m, m, 1, m), 0);
             due.is("leave", house.act(1, 0, m, m, m), 0);
             due.is("come", house.act(0, 0, m, m, m), 0);
+        }
+        due.by("kind that of move, a, b its numbers (others of no matter)");
+        DebateHouse house = Due.house(CHAIR, 2);
+        for (int what = 0; what < 6; what++) {
+            house.act(what, what == 5 ? 1 : 0, Acts.LIMIT, 3, 3);
+        }
+        int[] rulings = {2, 0, 2, 6, 0, 6};
+        for (int what = 0; what < rulings.length; what++) {
+            due.is("act " + what, house.ruling(2 + what), rulings[what]);
+        }
+        house.act(0, 0, Acts.LIMIT, 3, 3);
+        house.act(2, 0, Acts.LIMIT, 3, 3);
+        house.act(3, 0, Acts.LIMIT, 3, 3);
+        due.is("yield", house.act(5, 1, Acts.LIMIT, 3, 3), 0);
+        int[] states = {2, 0, 1, 60, 60, 0, 0, 0, -1, 3, 12};
+        for (int what = 0; what < states.length; what++) {
+            due.is("state(" + what + ")", house.state(what), states[what]);
         }
     }
 
@@ -555,6 +579,7 @@ public final class EdgesFloorTest {
         }
         Acts.call(house);
         due.is("waits(0) as someone has the FLOOR", house.waits(0), 22);
+        due.is("waits(-1) as someone has the FLOOR", house.waits(-1), -1);
         due.is("waits(22)", house.waits(22), 0);
         due.is("waits(23)", house.waits(23), -1);
         due.is("nothing happened: the FLOOR", house.state(2), 23);

@@ -34,6 +34,7 @@ public final class EdgesMotionsTest {
         rulesOfTheChair();
         pendingNoMore();
         whatPassed();
+        onlyItsOwn();
         tables();
         adjourns();
         mainInPlaceOfAPaper();
@@ -448,7 +449,8 @@ public final class EdgesMotionsTest {
     }
 
     private static void votesNotInOrder() {
-        due.by("vote: 6 no motion is pending; it needs a second and has none; it has debate and none was yet; it is of WAY chair");
+        due.by("vote: 6 no motion is pending; it needs a second and has none; it has debate and none was yet; "
+            + "it is of WAY chair");
         String[] told = {"second pass half", "debate pass half", "pass chair"};
         for (String way : told) {
             DebateHouse house = Due.house("motion limit rank 1 " + way + ";", 2);
@@ -461,7 +463,8 @@ public final class EdgesMotionsTest {
     }
 
     private static void ways() {
-        due.by("half: 2 yes above yes and no; thirds: 3 yes not below 2 (yes and no), yes above 0; quarter: 4 yes above yes and no");
+        due.by("half: 2 yes above yes and no; thirds: 3 yes not below 2 (yes and no), yes above 0; "
+            + "quarter: 4 yes above yes and no");
         int[][] rows = {{0, 0}, {1, 0}, {0, 1}, {1, 1}, {1, 2}, {2, 1}, {1, 3}, {3, 1}, {2, 2}, {3, 2}, {4, 2}, {5, 3}, {6, 3},
             {2, 5}, {2, 6}, {2, 7}, {3, 8}, {3, 9}, {12, 12}, {13, 11}, {11, 13}, {15, 8}, {16, 8}, {15, 9}, {6, 18}, {7, 17},
             {5, 18}, {6, 17}, {24, 0}, {0, 24}};
@@ -548,6 +551,40 @@ public final class EdgesMotionsTest {
         Acts.vote(house, 1, 0);
         due.is("the FLOOR's time left is as it was", house.state(3), 60);
         due.is("told(10) is as it was", house.told(10), 60);
+    }
+
+    /** A limit that needs debate waits below: each KIND that passes changes what is its own, and nothing else. */
+    private static void onlyItsOwn() {
+        due.by("If it PASSED: of each KIND what stands there alone");
+        String rules = rulesWithout(Acts.LIMIT) + "motion limit rank 2 debate pass half;";
+        int[] whats = {4, 5, 6, 7, 8};
+        int[][] rows = {{60, 1, 0, 0, 5, 0}, {60, 1, 0, 0, 3, 0}, {60, 1, 0, 0, 4, 1}, {}, {60, 0, 0, 0, -1, -1},
+            {60, 1, 5, 0, 4, 0}, {60, 0, 0, 1, 4, -1}, {60, 1, 0, 0, 4, 0}};
+        for (int kind = 0; kind < 8; kind++) {
+            if (kind == Acts.LIMIT) {
+                continue;
+            }
+            DebateHouse house = Due.house(rules, 3);
+            Acts.yieldTo(house, 0);
+            if (kind != Acts.MAIN) {
+                carry(house, Acts.MAIN, 4, 100);
+            }
+            due.is("limit", Acts.move(house, 0, Acts.LIMIT, 9, 0), 0);
+            carry(house, kind, 5, 6);
+            for (int n = 0; n < whats.length; n++) {
+                due.is(KINDS[kind] + ": state(" + whats[n] + ")", house.state(whats[n]), rows[kind][n]);
+            }
+            due.is(KINDS[kind] + ": pending(0, 5)", house.pending(0, 5), rows[kind][5]);
+        }
+        DebateHouse house = Due.house(rulesWithout(Acts.AMEND) + "motion amend rank 20 debate pass half;", 3);
+        carry(house, Acts.MAIN, 4, 100);
+        Acts.move(house, 0, Acts.AMEND, 1, 0);
+        carry(house, Acts.LIMIT, 5, 6);
+        int[] want = {5, 1, 0, 0, 4};
+        for (int n = 0; n < whats.length; n++) {
+            due.is("limit: state(" + whats[n] + ")", house.state(whats[n]), want[n]);
+        }
+        due.is("limit: pending(0, 5)", house.pending(0, 5), 0);
     }
 
     private static void tables() {

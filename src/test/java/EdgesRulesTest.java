@@ -111,6 +111,16 @@ public final class EdgesRulesTest {
         due.is("told(10)", house.told(10), 7);
         due.is("told(11)", house.told(11), 0);
         due.is("told(13)", house.told(13), 0);
+        due.by("The TAPE has its first n bytes alone: those behind them are not of the text");
+        String whole = "time 77;quorum 12;";
+        int[][] cuts = {{4, 1 + 4 * 4}, {6, 1 + 4 * 6}, {7, 1 + 4 * 7}, {8, 0}, {12, 1 + 4 * 8}, {14, 1 + 4 * 14},
+            {16, 1 + 4 * 16}};
+        for (int[] cut : cuts) {
+            Due.feed(house, whole);
+            due.is("end(" + cut[0] + ")", house.end(cut[0]), cut[0]);
+            due.is("rules of '" + whole.substring(0, cut[0]) + "'", house.rules(), cut[1]);
+        }
+        due.is("told(10)", house.told(10), 77);
         due.by("The TAPE, which is empty then");
         due.is("told(30)", house.told(30), 0);
         due.is("end(1)", house.end(1), -1);
@@ -353,6 +363,9 @@ public final class EdgesRulesTest {
             wasTold(clause + clause, clause.length());
             wasTold(clause + "  " + clause, clause.length() + 2);
         }
+        cantBeSo("time 5;times 5;", 7);
+        cantBeSo("yields no;yieldsx no;", 10);
+        cantBeSo("motion main rank 5 pass half;motion mains rank 5 pass half;", 36);
         wasTold("turns schools;turns members;", 14);
         wasTold("yields no;yields yes;", 10);
         StringBuilder all = new StringBuilder();

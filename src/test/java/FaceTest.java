@@ -4,6 +4,8 @@ import java.lang.reflect.Method;
 import java.lang.reflect.Modifier;
 import java.nio.file.Files;
 import java.nio.file.Path;
+import java.util.ArrayList;
+import java.util.List;
 import java.util.Set;
 import java.util.TreeSet;
 import java.util.regex.Matcher;
@@ -19,6 +21,7 @@ public final class FaceTest {
     public static void main(String[] args) throws Exception {
         face();
         newObject();
+        shape();
         language();
         due.finish();
     }
@@ -69,10 +72,39 @@ public final class FaceTest {
         due.is("leave of one who never came", house.act(1, 0, 0, 0, 0), 2);
     }
 
+    /** Rules 1, 2 and 11 of LANGUAGE.md, as far as the compiled classes tell. */
+    private static void shape() {
+        Set<String> publicNames = new TreeSet<>();
+        for (Method method : DebateHouse.class.getDeclaredMethods()) {
+            if (Modifier.isPublic(method.getModifiers())) {
+                publicNames.add(method.getName());
+            }
+        }
+        List<Class<?>> classes = new ArrayList<>(List.of(DebateHouse.class.getDeclaredClasses()));
+        classes.add(DebateHouse.class);
+        due.is("at most twelve classes: " + classes.size(), classes.size() <= 12, true);
+        for (Class<?> one : classes) {
+            due.is(one + " is static", one == DebateHouse.class || Modifier.isStatic(one.getModifiers()), true);
+            int fields = 0;
+            for (Field field : one.getDeclaredFields()) {
+                boolean isStatic = Modifier.isStatic(field.getModifiers());
+                due.is(field + " is final", !isStatic || Modifier.isFinal(field.getModifiers()), true);
+                fields += isStatic ? 0 : 1;
+            }
+            due.is("at most twenty fields in " + one + ": " + fields, fields <= 20, true);
+            for (Method method : one.getDeclaredMethods()) {
+                due.is("at most seven parameters of " + method, method.getParameterCount() <= 7, true);
+                boolean isPrivate = Modifier.isPrivate(method.getModifiers());
+                due.is("a public one's name: " + method, isPrivate && publicNames.contains(method.getName()), false);
+            }
+        }
+    }
+
     private static void language() throws Exception {
         String source = Files.readString(Path.of("src/main/java/DebateHouse.java"));
         String code = source.replaceAll("(?s)/\\*.*?\\*/", "").replaceAll("//[^\n]*", "").replaceAll("\"[^\"]*\"", "\"\"");
-        String banned = "\\b(throw|throws|try|catch|synchronized|assert|package|import|double|float|protected)\\b|->|::|\"\" *\\+|\\+ *\"\"";
+        String banned = "\\b(throw|throws|try|catch|synchronized|assert|package|import|double|float|protected)\\b"
+            + "|->|::|\"\" *\\+|\\+ *\"\"";
         Matcher found = Pattern.compile(banned).matcher(code);
         if (found.find()) {
             due.is("in the code: " + found.group(), 1, 0);

@@ -10,6 +10,10 @@ public final class ModelTest {
     private static final int[] EDGES = {Integer.MIN_VALUE, Integer.MIN_VALUE + 1, -2, -1, 0, 1, 2, 3, 5, 7, 8, 9, 10, 11, 23,
         24, 25, 40, 99, 100, 101, 299, 300, 310, 311, 400, 440, 600, 999, 1000, 9999, Integer.MAX_VALUE};
 
+    private static final String EVERY_KIND = "motion main rank 1 pass half;motion amend rank 2 pass chair;"
+        + "motion close rank 7 pass quarter;motion limit rank 3 pass thirds;motion table rank 6 second pass chair;"
+        + "motion recess rank 4 debate pass chair;motion adjourn rank 5 second debate pass half;motion appeal rank 1 pass chair;";
+
     private final Random random;
     private final Model.Law law = new Model.Law();
     private final int[] schools = new int[24];
@@ -186,9 +190,15 @@ public final class ModelTest {
         return random.nextInt(4) == 0 ? random.nextInt() : EDGES[random.nextInt(EDGES.length)];
     }
 
+    /** Half of the runs have rules and members, so that their acts are done and not refused alone. */
     private static void anyCalls(Random random) {
         DebateHouse house = new DebateHouse();
-        for (int n = 0; n < 512; n++) {
+        int n = 0;
+        if (random.nextBoolean()) {
+            house = Due.house(EVERY_KIND, 24);
+            n = 60;
+        }
+        for (; n < 512; n++) {
             int[] x = {any(random), any(random), any(random), any(random), any(random)};
             switch (random.nextInt(21)) {
                 case 0: house.feed(x[0], x[1], x[2], x[3], x[4]); break;
