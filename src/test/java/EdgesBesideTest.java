@@ -23,6 +23,7 @@ public final class EdgesBesideTest {
         whatCantBeSo();
         amendmentsThatCantBeSo();
         addToWhatIsGone();
+        addToWhatWasGone();
         twoAtTheFront();
         workedTwice();
         mainInPlaceOfAPaper();
@@ -386,6 +387,24 @@ public final class EdgesBesideTest {
             int[] struck = {100, 101, 103, -1, -1};
             for (int k = 0; k < added.length; k++) {
                 due.is("amendment " + kind + ": text " + k, house.beside(6, TEXT + k), kind == 0 ? added[k] : struck[k]);
+            }
+        }
+    }
+
+    /** Clause 2 is GONE as the amendment is moved, which is let beside the session alone. */
+    private static void addToWhatWasGone() {
+        due.by("As it is moved: 6 it is GONE; as it passes, then ADD comes behind the last clause ahead of it");
+        for (int kind = 0; kind < 4; kind++) {
+            DebateHouse house = houseWithPaper();
+            due.is("act 5: STRIKE of 2", move(house, Acts.AMEND, 9, 0), 0);
+            pass(house);
+            due.is("act 7: amendment " + kind + " of 2", move(house, Acts.AMEND, 8 + kind, 7), 6);
+            Acts.vote(house, 7, 0);
+            due.is("it is voted on", house.beside(7, RULING + 8), 0);
+            int[] added = {100, 101, 7, 103, -1};
+            int[] struck = {100, 101, 103, -1, -1};
+            for (int k = 0; k < added.length; k++) {
+                due.is("amendment " + kind + ": text " + k, house.beside(7, TEXT + k), kind == 0 ? added[k] : struck[k]);
             }
         }
     }
